@@ -115,7 +115,7 @@ public final class ColourHouse {
             return refused(NO_ROOM);
         }
         copyRow(row, chips[made[CHIP]].bands);
-        return newChip();
+        return newOne(CHIP);
     }
 
     public int cloth() {
@@ -194,7 +194,7 @@ public final class ColourHouse {
             return refused(NO_ROOM);
         }
         chips[made[CHIP]].become(chips[a], chips[b], up, down);
-        return newChip();
+        return newOne(CHIP);
     }
 
     // ---- mixing
@@ -618,12 +618,6 @@ public final class ColourHouse {
         return made[kind] - 1;
     }
 
-    private int newChip() {
-        // an earlier chip of this number, taken back since, may have left its drift behind
-        chips[made[CHIP]].clearDrift();
-        return newOne(CHIP);
-    }
-
     /** The spectrum that a sort of band() names, but for the drift; null where there is none such. */
     private float[] spectrumOf(int sort, int i) {
         switch (sort) {
@@ -809,7 +803,7 @@ public final class ColourHouse {
             }
             double guess = 0.69 + square * 0.33;
             // a start within a twentieth, and each step squares the error
-            for (int k = 0; k < 5; k++) {
+            for (int k = 0; k < 4; k++) {
                 guess = (guess + square / guess) * 0.5;
             }
             long root = nearestRoot((long) (square * DOUBLE_UNIT), (long) (guess * DOUBLE_UNIT));
@@ -836,17 +830,12 @@ public final class ColourHouse {
 
     private static final class Chip {
         final float[] bands = new float[BANDS];
+        /** 0 for a new chip of a number that is free again too: what had moved the old one was taken back ahead of it. */
         final float[] moved = new float[BANDS];
 
         void become(Chip a, Chip b, int up, int down) {
             for (int k = 0; k < BANDS; k++) {
                 bands[k] = (float) (((double) a.bands[k] * up + (double) b.bands[k] * (down - up)) / down);
-            }
-        }
-
-        void clearDrift() {
-            for (int k = 0; k < BANDS; k++) {
-                moved[k] = 0;
             }
         }
 
@@ -1260,7 +1249,6 @@ public final class ColourHouse {
             room = itsRoom;
             size = 0;
             tries = 0;
-            ended = false;
             hasBest = false;
         }
 

@@ -62,6 +62,7 @@ final class ColourTests {
         for (int[] w : wrong) {
             CHECK.denied("measure", x, x.measure(w[0], w[1], w[2]), 3);
         }
+        CHECK.yes("measure(1, 1, 1)", x.measure(1, 1, 1));
         CHECK.yes("measure(100, 100, 100)", x.measure(100, 100, 100));
         CHECK.same("trouble()", x.trouble(), 0);
         CHECK.same("no act", x.count(7), 0);
@@ -203,6 +204,11 @@ final class ColourTests {
         x.light(3, 1, 1);
         x.light(5, 1, 9);
         CHECK.same("the greatest, the lowest of those alike", x.parting(0, 1, 1), 3);
+        x.light(1, 1, 2);
+        CHECK.same("the second light", x.parting(0, 1, 1), 1);
+        x.light(0, 0, 0);
+        x.light(0, 1, 3);
+        CHECK.same("the first light", x.parting(0, 1, 1), 0);
         CHECK.same("a blind eye", x.parting(0, 1, 0), 0);
         CHECK.same("of one", x.parting(1, 1, 1), 0);
         int[][] none = {{2, 0, 0}, {0, 2, 0}, {-1, 0, 0}, {0, -1, 0}, {0, 1, 2}, {0, 1, -1}};
@@ -298,5 +304,9 @@ final class ColourTests {
         x.light(4, 0, 1);
         x.solid(0, 0, 4, 1, 100, 1000, 1000);
         CHECK.same("under its own light, for its own eye", x.inside(1, 1), 0);
+        CHECK.same("its own chip", x.inside(1, 0), 1);
+        x.light(0, 0, 1);
+        x.eye(1, 1, 0, 0);
+        CHECK.same("not for another eye", x.inside(1, 0), 0);
     }
 }

@@ -13,6 +13,7 @@ final class KeepingTests {
         post();
         unpack();
         undoEach();
+        undoOthers();
         undoSixty();
         notActs();
         trouble();
@@ -295,6 +296,37 @@ final class KeepingTests {
             CHECK.same("nothing is left", x.count(what), 0);
         }
         CHECK.same("undo()", x.undo(), 0);
+    }
+
+    /** Of several of a sort the one that the act changed. */
+    private static void undoOthers() {
+        ColourHouse x = new ColourHouse();
+        Bench.flatCloth(x, 0.9f);
+        x.dye(0);
+        x.dye(0);
+        x.batch(0, 1);
+        x.batch(0, 1);
+        x.chip();
+        x.chip();
+        Bench.flatStrength(x, 1, 7, 0.5f);
+        x.undo();
+        CHECK.same("dye 1 has no strength", x.told(1, 10), 0);
+        CHECK.same("dye 0 has no strength", x.told(0, 10), 0);
+        x.cents(1, 3);
+        x.undo();
+        CHECK.same("dye 1 has no cents", x.told(1, 11), 0);
+        x.measured(1);
+        x.undo();
+        CHECK.same("batch 1 isn't measured", x.told(1, 8), 0);
+        CHECK.same("nor is batch 0", x.told(0, 8), 0);
+        x.remeasure(1);
+        x.undo();
+        CHECK.bits("chip 1 as ahead of it", x.band(1, 1, 0), 0.9f);
+        x.remeasure(1);
+        x.undo();
+        x.undo();
+        CHECK.same("chip 1 anew", x.chip(), 1);
+        CHECK.same("without a drift", x.band(4, 1, 0), 0);
     }
 
     private static void undoSixty() {

@@ -34,6 +34,7 @@ final class MixingTests {
         CHECK.refused("grams", x, x.part(false, 0, -1), 3);
         CHECK.refused("grams", x, x.part(false, 0, 1000001), 3);
         x.lot(0, 1, 1, 1);
+        x.cents(9, 0);
         CHECK.same("part 1", x.part(true, 0, 1000000), 1);
         CHECK.same("trouble()", x.trouble(), 0);
         for (int n = 2; n <= 6; n++) {
