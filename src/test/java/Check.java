@@ -3,9 +3,22 @@ final class Check {
     private int right = 0;
     private int wrong = 0;
     private String promise = "";
+    private String sentence = "";
 
     void promise(String name) {
         promise = name;
+    }
+
+    /** The words of the document that are tested now. */
+    void says(String words) {
+        sentence = words;
+        promise = promise + " (\"" + words + "\")";
+    }
+
+    String takeSentence() {
+        String said = sentence;
+        sentence = "";
+        return said;
     }
 
     void same(String call, long got, long due) {
@@ -15,6 +28,12 @@ final class Check {
         }
         wrong++;
         System.out.println(promise + ": " + call + " answered " + got + ", due is " + due);
+    }
+
+    /** Something that is wrong, told in words. */
+    void wrong(String what) {
+        wrong++;
+        System.out.println(promise + ": " + what);
     }
 
     void yes(String call, boolean got) {

@@ -8,6 +8,7 @@ final class KeepingTests {
         remeasure();
         drift();
         pack();
+        packTheRest();
         out();
         letter();
         post();
@@ -79,8 +80,10 @@ final class KeepingTests {
     private static int[] bytesOf(ColourHouse x, int sort, int i) {
         int[] bytes = new int[68];
         int sum = 17;
+        int word = 0;
         for (int k = 0; k < 64; k++) {
-            bytes[k] = x.band(sort, i, k / 4) >>> (24 - 8 * (k % 4)) & 255;
+            word = k % 4 == 0 ? x.band(sort, i, k / 4) : word;
+            bytes[k] = word >>> (24 - 8 * (k % 4)) & 255;
             sum = sum * 31 + bytes[k];
         }
         for (int k = 0; k < 4; k++) {
@@ -116,6 +119,11 @@ final class KeepingTests {
             CHECK.same("tells no trouble", x.trouble(), 3);
         }
         isOut(x, kept);
+    }
+
+    private static void packTheRest() {
+        ColourHouse x = new ColourHouse();
+        Bench.flatCloth(x, 0.77f);
         x.predict(0);
         isOutAfter(x, 3, 4);
         x.batch(0, 1);

@@ -336,7 +336,11 @@ final class ModelTests {
         }
     }
 
+    /** Nothing is promised of calls beyond the last, so that none is made. */
     private boolean call(Method m, Object[] arguments) throws Exception {
+        if (calls.size() >= CALLS) {
+            return same;
+        }
         Method its = Model.class.getDeclaredMethod(m.getName(), m.getParameterTypes());
         Object due = answer(model, its, arguments);
         Object got;
