@@ -217,6 +217,28 @@ final class CorrectEdges {
         added(x, 1, 1, 1, 8);
     }
 
+    static void term5_lotsThatThereAre() {
+        CHECK.says("additions of up to two lots");
+        ColourHouse x = withLots();
+        for (int lots = 0; lots < 20; lots++) {
+            int goal = goal(x, 0, 8 * lots);
+            x.correct(0, goal, 0, 0, 8, 1);
+            CHECK.same("tries of " + lots + " lots", x.addition(0), lots + lots * (lots - 1) / 2);
+            x.undo();
+            x.lot(lots % 2, 1, 1, MOST_STOCK);
+        }
+        int goal = goal(x, 0, 8, 1, 8);
+        CHECK.same("of twenty", x.correct(0, goal, 0, 0, 8, 1), 2);
+        added(x, 20 + 190, 1, 0, 8, 1, 8);
+        for (int n = 0; n < 20; n++) {
+            x.undo();
+        }
+        CHECK.same("nineteen lots and a goal were taken back", x.count(4), 1);
+        goal = goal(x, 1, 8);
+        CHECK.same("what was taken back isn't tried", x.correct(0, goal, 0, 0, 8, 1), 0);
+        added(x, 1, 1);
+    }
+
     private static ColourHouse withRoomFor(int lots) {
         ColourHouse x = withLots(0, 0, 0, 0, 0, 0, 0, 0, 1, 1);
         for (int i = 0; i < 8 - lots; i++) {

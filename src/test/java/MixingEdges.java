@@ -93,6 +93,30 @@ final class MixingEdges {
         }
     }
 
+    /** What is hardly darker than the cloth gets lost beside what is black, so that the formula tells at its ends. */
+    static void term2_atTheLast() {
+        CHECK.says("g at or below b: own of a + (own of b - own of a) * ((g - a) / (b - a))");
+        double black = Bench.quotient(0);
+        double pale = Bench.quotient(Math.nextDown(1f));
+        double due = black + (pale - black) * 1.0;
+        CHECK.yes("that tells", Bench.ofQuotient(due) != Bench.ofQuotient(pale));
+        ColourHouse x = new ColourHouse();
+        Bench.flatCloth(x, 1);
+        x.dye(0);
+        Bench.flatStrength(x, 0, 10, 0);
+        Bench.flatStrength(x, 0, 20, Math.nextDown(1f));
+        x.part(false, 0, 20);
+        x.predict(0);
+        CHECK.bits("at the last one", x.band(3, 0, 0), Bench.ofQuotient(due));
+        x.part(false, 0, 10);
+        x.predict(0);
+        CHECK.bits("at the first one", x.band(3, 0, 0), Bench.ofQuotient(black));
+        Bench.flatStrength(x, 0, 30, 0.5f);
+        x.part(false, 0, 20);
+        x.predict(0);
+        CHECK.bits("at the second of three", x.band(3, 0, 0), Bench.ofQuotient(due));
+    }
+
     static void term2_aboveTheLast() {
         CHECK.says("above the last one: its own * (g / its grams).");
         ColourHouse x = bench();
@@ -116,6 +140,18 @@ final class MixingEdges {
         x.lot(1, 1000, 1, 1);
         x.part(true, 0, 1000000);
         adds(x, 0, 0.0);
+    }
+
+    /** A STRENGTH's own is reckoned from its DYE's cloth, whatever cloth is mixed on. */
+    static void term2_onAnotherCloth() {
+        CHECK.says("PREDICTION on a cloth: of each band q, the cloth's QUOTIENT, then q + that of each part in order");
+        ColourHouse x = bench();
+        Bench.flatCloth(x, 0.4f);
+        x.part(false, 0, 100);
+        x.part(false, 0, 300);
+        x.predict(1);
+        double due = Bench.quotient(0.4f) + own(0.3f) + (own(0.3f) + (own(0.2f) - own(0.3f)) * 1.0);
+        CHECK.bits("on cloth 1", x.band(3, 0, 15), Bench.ofQuotient(due));
     }
 
     static void term2_gramsOfParts() {

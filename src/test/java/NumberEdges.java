@@ -101,6 +101,26 @@ final class NumberEdges {
         }
     }
 
+    /** Weights with the sum 2 to the 42nd; band 0 has 2 to the 13th of it, so that its last bit is the RATIO's last. */
+    static void term1_rootNextToOne() {
+        CHECK.says("sqrt is the exact one rounded");
+        int[][] weights = {{8192, 1}, {1000000, 1000000}, {1000000, 1000000}, {1000000, 1000000}, {1000000, 1000000},
+            {398046, 1000000}, {502912, 1}};
+        ColourHouse x = new ColourHouse();
+        Bench.flat(x, 1);
+        for (int k = 0; k < weights.length; k++) {
+            x.light(0, k, weights[k][0]);
+            x.eye(0, 1, k, weights[k][1]);
+        }
+        int one = Bench.bits(1);
+        x.bands(0, one + 1, one, one, one);
+        CHECK.bits("a bit above 1", x.colour(0, 0, 0, 0, 0), 100 * Math.sqrt(Math.nextUp(1.0)));
+        CHECK.bits("its root is 1", x.colour(0, 0, 0, 0, 0), 100.0);
+        x.bands(0, one - 1, one, one, one);
+        CHECK.bits("a bit below 1", x.colour(0, 0, 0, 0, 0), 100 * Math.sqrt(Math.nextDown(1.0)));
+        CHECK.yes("its root isn't 1", x.colour(0, 0, 0, 0, 0) != Double.doubleToRawLongBits(100.0));
+    }
+
     static void term1_fortyChips() {
         CHECK.says("CHIPS 40");
         ColourHouse x = new ColourHouse();

@@ -254,6 +254,28 @@ final class SightEdges {
         CHECK.same("not of a drift", x.colour(4, 1, 0, 0, 0), 0);
     }
 
+    static void promise16_bits() {
+        CHECK.says("The bits (a long) of COLOUR k");
+        ColourHouse x = new ColourHouse();
+        Bench.four(x, 1, 0, 0, 0);
+        x.light(0, 0, 1);
+        x.light(0, 1, 9999);
+        x.eye(0, 1, 0, 1);
+        x.eye(0, 1, 1, 1);
+        x.eye(1, 2, 0, 1);
+        x.eye(1, 2, 1, 1);
+        CHECK.bits("a colour of 1", x.colour(0, 0, 0, 0, 0), 1.0);
+        CHECK.bits("a colour of -1", x.colour(0, 0, 0, 1, 2), -1.0);
+        CHECK.bits("a colour of -2.5", x.colour(0, 0, 0, 0, 1), -2.5);
+        CHECK.same("a colour of 0", x.colour(0, 0, 0, 1, 0), 0);
+        CHECK.same("a colour of 0 less 0", x.colour(0, 0, 0, 1, 1), 0);
+        Bench.four(x, 2, 2, 0, 0);
+        CHECK.bits("the greatest", x.colour(0, 0, 0, 0, 2), 100 * Math.sqrt(2));
+        CHECK.bits("the least", x.colour(0, 0, 0, 0, 1), -250 * Math.sqrt(2));
+        x.bands(0, 1, 0, 0, 0);
+        CHECK.bits("next to 0", x.colour(0, 0, 0, 0, 0), 100 * Math.sqrt(Float.MIN_VALUE / 10000.0));
+    }
+
     static void promise16_noneSuch() {
         CHECK.says("0 where there is none such.");
         int[][] none = {{-1, 0, 0, 0, 0}, {4, 1, 0, 0, 0}, {6, 0, 0, 0, 0}, {LEAST, 0, 0, 0, 0}, {GREATEST, 0, 0, 0, 0},

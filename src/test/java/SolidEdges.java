@@ -227,6 +227,27 @@ final class SolidEdges {
         }
     }
 
+    /** Chip 1 is chip 0 but for band 3, which light 4 alone shows to eye 1 alone. */
+    static void promise21_itsLightAndEye() {
+        CHECK.says("Whether a chip (under the SOLID's LIGHT for its EYE) is in a SOLID");
+        ColourHouse x = bench();
+        Bench.four(x, 0.25f, 0.25f, 0.25f, 1);
+        x.chip();
+        for (int band = 0; band < 4; band++) {
+            x.light(4, band, 1);
+            x.eye(1, 1, band, 1);
+        }
+        x.light(0, 3, 0);
+        for (int light = 0; light < 5; light += 4) {
+            for (int eye = 0; eye < 2; eye++) {
+                int solid = x.solid(0, 0, light, eye, 10, 1000, 1000);
+                CHECK.same("its own chip", x.inside(solid, 0), INSIDE);
+                CHECK.same("the other under " + light + " for " + eye, x.inside(solid, 1),
+                    light == 4 && eye == 1 ? OUTSIDE : INSIDE);
+            }
+        }
+    }
+
     static void promise21_oneIsNotThere() {
         CHECK.says("NONE if one isn't there.");
         int[][] none = {{-1, 0}, {2, 0}, {12, 0}, {LEAST, 0}, {GREATEST, 0}, {0, -1}, {0, 4}, {0, 40}, {0, LEAST},

@@ -469,6 +469,24 @@ final class SpectraEdges {
         CHECK.bits("it is that", x.band(1, shares.length + 2, 0), 2f);
     }
 
+    static void promise10_ofDoubles() {
+        CHECK.says("of doubles, made a float");
+        ColourHouse x = new ColourHouse();
+        Bench.flatChip(x, 0.1f);
+        Bench.flatChip(x, 0.7f);
+        int told = 0;
+        for (int down = 3; down < 1000 && told < 10; down += 2) {
+            float due = (float) (((double) 0.1f * 2 + (double) 0.7f * (down - 2)) / down);
+            float ofFloats = (float) (((double) 0.1f * 2 + 0.7f * (down - 2)) / down);
+            if (ofFloats != due) {
+                told++;
+                CHECK.bits("a band of 2 / " + down, x.band(1, x.blend(0, 1, 2, down), 0), due);
+                CHECK.bits("the other way round", x.band(1, x.blend(1, 0, down - 2, down), 0), due);
+            }
+        }
+        CHECK.same("shares by which products of floats would tell", told, 10);
+    }
+
     static void promise10_oneIsNotThere() {
         CHECK.says("NONE, trouble 2 if one isn't there");
         int[] none = {-1, 4, 40, LEAST, GREATEST};
